@@ -1,0 +1,57 @@
+/** rename: an entry gets the word of the pad, and stands where that belongs. */
+public final class Promise07RenameTest {
+    public static void main(String[] args) {
+        places();
+        errors();
+        Check.end();
+    }
+
+    private static void places() {
+        RunningHeads x = Check.lexicon("b:1,d:2,f:3,h:4");
+        rename(x, 0, "g", 2, "d:2,f:3,g:1,h:4");
+        rename(x, 2, "a", 0, "a:1,d:2,f:3,h:4");
+        rename(x, 0, "zzzzzzz", 3, "d:2,f:3,h:4,zzzzzzz:1");
+        rename(x, 1, "e", 1, "d:2,e:3,h:4,zzzzzzz:1");
+        rename(x, 3, "da", 1, "d:2,da:1,e:3,h:4");
+        rename(x, 1, "da", 1, "d:2,da:1,e:3,h:4");
+        Check.due("count(14)", x.count(14), 6);
+        Check.due("undo()", x.undo(), 5);
+        Check.due("undo()", x.undo(), 4);
+        Check.text("the entries", Check.entries(x), "d:2,e:3,h:4,zzzzzzz:1");
+        Check.text("the head", Check.head(x, 0), "d-zzzzzzz");
+    }
+
+    private static void rename(RunningHeads x, int entry, String word, int want, String entries) {
+        Check.pad(x, word);
+        Check.due("rename(" + entry + ") to " + word, x.rename(entry), want);
+        Check.due("the length of the pad", x.count(13), 0);
+        Check.text("the entries", Check.entries(x), entries);
+    }
+
+    private static void errors() {
+        RunningHeads x = Check.lexicon("b:1,d:2");
+        bad(x, "", 0, RunningHeads.BAD_TEXT);
+        bad(x, "abcdefgh", 0, RunningHeads.BAD_TEXT);
+        bad(x, "B", 0, RunningHeads.BAD_TEXT);
+        bad(x, "a:1", 0, RunningHeads.BAD_TEXT);
+        bad(x, "a1", 0, RunningHeads.BAD_TEXT);
+        bad(x, "a`", 0, RunningHeads.BAD_TEXT);
+        bad(x, "a{", 0, RunningHeads.BAD_TEXT);
+        bad(x, "d", 0, RunningHeads.NOT_POSSIBLE);
+        bad(x, "b", 1, RunningHeads.NOT_POSSIBLE);
+        bad(x, "c", 2, RunningHeads.NO_SUCH);
+        bad(x, "", 2, RunningHeads.NO_SUCH);
+        bad(x, "d", -1, RunningHeads.NO_SUCH);
+        for (int far : Check.FAR) {
+            bad(x, "c", far, RunningHeads.NO_SUCH);
+        }
+    }
+
+    private static void bad(RunningHeads x, String word, int entry, int want) {
+        Check.pad(x, word);
+        String before = Check.all(x);
+        Check.due("rename(" + entry + ") to '" + word + "'", x.rename(entry), want);
+        Check.text("all behind the error", Check.all(x), before);
+        Check.due("the length of the pad", x.count(13), word.length());
+    }
+}
