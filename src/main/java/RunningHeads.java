@@ -537,6 +537,7 @@ public final class RunningHeads {
 
         private void layOnce(Lexicon lexicon, int keep) {
             pages = 0;
+            // No page is open yet, so the first entry finds no room and opens page 0 itself.
             room = 0;
             for (int entry = 0; entry < lexicon.entries; entry++) {
                 layEntry(entry, lexicon.lines[entry], keep);
@@ -544,8 +545,8 @@ public final class RunningHeads {
         }
 
         private void layEntry(int entry, int lines, int keep) {
-            // Page 0 is opened only now, so every page that is open here has a line on it.
-            int here = pages == 0 ? 0 : linesHere(lines, keep);
+            // Each page that is open here has a line on it, as the fourth rule asks.
+            int here = linesHere(lines, keep);
             if (here == 0) {
                 openPage();
                 here = linesHere(lines, keep);

@@ -72,6 +72,16 @@ final class Check {
         return x;
     }
 
+    /** The most entries, lines and pages that there can be: 300 pages of 4 lines. */
+    static RunningHeads full() {
+        RunningHeads x = lexicon(6, 4, 3);
+        for (int i = 0; i < 30; i++) {
+            put(x, "entry" + (char) ('a' + i % 26) + (char) ('a' + i / 26) + ":40");
+            due("read()", x.read(), i + 1);
+        }
+        return x;
+    }
+
     static String word(RunningHeads x, int entry) {
         StringBuilder word = new StringBuilder();
         for (int i = 0; i < x.entry(entry, 5); i++) {

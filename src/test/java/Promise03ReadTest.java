@@ -49,6 +49,9 @@ public final class Promise03ReadTest {
         Check.due("read() of 31 entries", x.read(), RunningHeads.TOO_MANY);
         Check.text("all behind the error", Check.all(x), before);
         Check.due("the length of the pad", x.count(13), 18);
+        Check.pad(x, "aa:2,ab:3,ac:4,a:9");
+        Check.due("read() of 31 entries, the third one too many", x.read(), RunningHeads.TOO_MANY);
+        Check.text("the first entry", Check.word(x, 0) + x.entry(0, 0), "a1");
         Check.pad(x, "aa:2,ab:3,a:8,aa:4,ab:5");
         Check.due("read() of 30 entries", x.read(), 30);
         Check.pad(x, "zz:2");

@@ -21,6 +21,21 @@ public final class Promise05DropTest {
         Check.due("pages", x.count(4), 0);
         Check.due("passes", x.count(8), 1);
         Check.due("drop(0) of none", x.drop(0), RunningHeads.NO_SUCH);
+        full();
         Check.end();
+    }
+
+    private static void full() {
+        RunningHeads x = Check.lexicon("a:1,b:2,c:3,d:4,e:5,f:6,g:7,h:8,i:9,j:1,k:1,l:1,m:1,n:1,o:1",
+            "p:1,q:1,r:1,s:1,t:1,u:1,v:1,w:1,x:1,y:1,z:1,ba:1,bb:1,bc:1", "bd:1");
+        Check.due("entries", x.count(3), 30);
+        Check.due("drop(0) of 30", x.drop(0), 1);
+        Check.due("lines of the first one then", x.entry(0, 0), 2);
+        Check.due("drop(28) of 29", x.drop(28), 1);
+        Check.text("the last one then", Check.word(x, 27), "y");
+        Check.due("undo()", x.undo(), 4);
+        Check.due("undo()", x.undo(), 3);
+        Check.due("drop(29) of 30", x.drop(29), 1);
+        Check.due("entries", x.count(3), 29);
     }
 }

@@ -14,11 +14,24 @@ public final class Promise07RenameTest {
         rename(x, 1, "e", 1, "d:2,e:3,h:4,zzzzzzz:1");
         rename(x, 3, "da", 1, "d:2,da:1,e:3,h:4");
         rename(x, 1, "da", 1, "d:2,da:1,e:3,h:4");
+        pagesChange();
         Check.due("count(14)", x.count(14), 6);
         Check.due("undo()", x.undo(), 5);
         Check.due("undo()", x.undo(), 4);
         Check.text("the entries", Check.entries(x), "d:2,e:3,h:4,zzzzzzz:1");
         Check.text("the head", Check.head(x, 0), "d-zzzzzzz");
+    }
+
+    private static void pagesChange() {
+        RunningHeads x = Check.lexicon("b:9,d:3");
+        rename(x, 1, "a", 0, "a:3,b:9");
+        Check.text("the head of page 0", Check.head(x, 0), "a-b");
+        Check.row("b is parted now", Check.entryRow(x, 1), 9, 0, 3, 1, 2);
+        rename(x, 0, "abcdefg", 0, "abcdefg:3,b:9");
+        x.set(RunningHeads.WIDTH, 5);
+        Check.due("lines of the head", x.page(0, 5), 2);
+        rename(x, 0, "abc", 0, "abc:3,b:9");
+        Check.due("lines of the head", x.page(0, 5), 1);
     }
 
     private static void rename(RunningHeads x, int entry, String word, int want, String entries) {

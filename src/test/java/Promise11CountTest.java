@@ -10,6 +10,7 @@ public final class Promise11CountTest {
         x = Check.lexicon("a:11,b:11");
         counts(x, 12, 12, 2, 2, 2, 1, 22, 0, 1, 1, 0, 0, 0, 0, 1);
         severalPasses();
+        pagesThatAreGone();
         errors(x);
         Check.end();
     }
@@ -33,6 +34,16 @@ public final class Promise11CountTest {
         Check.due("pages", x.count(4), 2);
         Check.due("passes", x.count(8), 2);
         Check.due("blank lines", x.count(7), 10);
+    }
+
+    private static void pagesThatAreGone() {
+        RunningHeads x = Check.lexicon(6, 4, 1, "aaaaa:4,bbbbb:4,ccccc:4");
+        counts(x, 6, 4, 1, 3, 3, 2, 12, 0, 2, 1, 0, 0, 3, 0, 4);
+        x.drop(2);
+        counts(x, 6, 4, 1, 2, 2, 1, 8, 0, 2, 1, 0, 0, 2, 0, 5);
+        x.drop(1);
+        x.drop(0);
+        counts(x, 6, 4, 1, 0, 0, 0, 0, 0, 1, 1, 0, 0, 0, 0, 6);
     }
 
     private static void errors(RunningHeads x) {

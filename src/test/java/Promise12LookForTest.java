@@ -14,8 +14,21 @@ public final class Promise12LookForTest {
         look(x, "d", 3);
         look(x, "da", 4);
         look(x, "zzzzzzz", 4);
+        pagesThatAreGone();
+        look(Check.full(), "zzzzzzz", 299);
         errors(x);
         Check.end();
+    }
+
+    private static void pagesThatAreGone() {
+        RunningHeads x = Check.lexicon("a:11,b:11,c:11");
+        look(x, "c", 2);
+        x.drop(1);
+        look(x, "zz", 1);
+        // Page 1 is gone, but b stands again as entry 1.
+        x.set(RunningHeads.LINES, 40);
+        look(x, "zz", 0);
+        look(x, "c", 0);
     }
 
     private static void look(RunningHeads x, String word, int want) {

@@ -27,6 +27,8 @@ public final class Promise16BestLinesTest {
     private static void highest() {
         // 37 lines, a prime number, and a head of one line: only 38 has no blank line; with two lines, only 39.
         best("aa:37", 38, 0);
+        // 39 lines fill three times 13, but there b finds one line only and goes to the next page.
+        best("a:12,b:2,c:25", 40, 0);
         RunningHeads x = Check.lexicon(12, 4, 2, "abcde:37");
         Check.due("bestLines(0) with a head of two lines", x.bestLines(0), 39);
         x.change(0, 38);

@@ -10,10 +10,11 @@ public final class RoomTest {
     public static void main(String[] args) {
         run();
         long before = bytes();
-        RunningHeads x = new RunningHeads();
+        RunningHeads empty = new RunningHeads();
         long made = bytes() - before;
+        Check.due("its entries", empty.count(3), 0);
         Check.holds("an object takes at most " + MOST_FOR_OBJECT + " bytes (" + made + ")", made <= MOST_FOR_OBJECT);
-        fillUp(x);
+        RunningHeads x = Check.full();
         before = bytes();
         calls(x);
         long more = bytes() - before;
@@ -27,19 +28,8 @@ public final class RoomTest {
 
     /** What is loaded at first use is not to be counted. */
     private static void run() {
-        RunningHeads x = new RunningHeads();
-        fillUp(x);
-        calls(x);
+        calls(Check.full());
         bytes();
-    }
-
-    private static void fillUp(RunningHeads x) {
-        x.set(RunningHeads.LINES, 6);
-        x.set(RunningHeads.WIDTH, 4);
-        for (int i = 0; i < 30; i++) {
-            Check.put(x, "entry" + (char) ('a' + i % 26) + (char) ('a' + i / 26) + ":40");
-            x.read();
-        }
     }
 
     private static void calls(RunningHeads x) {
