@@ -37,7 +37,7 @@ final class Check {
         return characters;
     }
 
-    static void put(RunningHeads x, String text) {
+    static void put(Heads x, String text) {
         for (int from = 0; from < text.length(); from += 8) {
             String part = text.substring(from, Math.min(text.length(), from + 8));
             int got = x.put(packed(part));
@@ -46,13 +46,13 @@ final class Check {
     }
 
     /** The pad has this text and no other. */
-    static void pad(RunningHeads x, String text) {
+    static void pad(Heads x, String text) {
         x.wipe();
         put(x, text);
     }
 
-    static RunningHeads lexicon(int lines, int width, int keep, String... texts) {
-        RunningHeads x = new RunningHeads();
+    static Heads lexicon(int lines, int width, int keep, String... texts) {
+        Heads x = new Heads();
         due("set LINES", x.set(RunningHeads.LINES, lines), 12);
         due("set WIDTH", x.set(RunningHeads.WIDTH, width), 12);
         due("set KEEP", x.set(RunningHeads.KEEP, keep), 2);
@@ -63,8 +63,8 @@ final class Check {
         return x;
     }
 
-    static RunningHeads lexicon(String... texts) {
-        RunningHeads x = new RunningHeads();
+    static Heads lexicon(String... texts) {
+        Heads x = new Heads();
         for (String text : texts) {
             pad(x, text);
             holds("'" + text + "' can be read", x.read() > 0);
@@ -73,8 +73,8 @@ final class Check {
     }
 
     /** The most entries, lines and pages that there can be: 300 pages of 4 lines. */
-    static RunningHeads full() {
-        RunningHeads x = lexicon(6, 4, 3);
+    static Heads full() {
+        Heads x = lexicon(6, 4, 3);
         for (int i = 0; i < 30; i++) {
             put(x, "entry" + (char) ('a' + i % 26) + (char) ('a' + i / 26) + ":40");
             due("read()", x.read(), i + 1);
@@ -82,33 +82,36 @@ final class Check {
         return x;
     }
 
-    static String word(RunningHeads x, int entry) {
+    static String word(Heads x, int entry) {
         StringBuilder word = new StringBuilder();
-        for (int i = 0; i < x.entry(entry, 5); i++) {
+        int letters = x.entry(entry, 5);
+        for (int i = 0; i < letters; i++) {
             word.append((char) x.entry(entry, 6 + i));
         }
         return word.toString();
     }
 
-    static String head(RunningHeads x, int page) {
+    static String head(Heads x, int page) {
         StringBuilder head = new StringBuilder();
-        for (int i = 0; i < x.page(page, 6); i++) {
+        int width = x.page(page, 6);
+        for (int i = 0; i < width; i++) {
             head.append((char) x.page(page, 7 + i));
         }
         return head.toString();
     }
 
     /** The entries as a text, however long. */
-    static String entries(RunningHeads x) {
+    static String entries(Heads x) {
         StringBuilder text = new StringBuilder();
-        for (int entry = 0; entry < x.count(3); entry++) {
+        int entries = x.count(3);
+        for (int entry = 0; entry < entries; entry++) {
             text.append(entry == 0 ? "" : ",").append(word(x, entry)).append(':').append(x.entry(entry, 0));
         }
         return text.toString();
     }
 
     /** The settings and entries, which is all that undo and the slots bring back. */
-    static String state(RunningHeads x) {
+    static String state(Heads x) {
         return x.count(0) + " " + x.count(1) + " " + x.count(2) + " " + entries(x);
     }
 
@@ -123,7 +126,7 @@ final class Check {
         }
     }
 
-    static int[] entryRow(RunningHeads x, int entry) {
+    static int[] entryRow(Heads x, int entry) {
         int[] row = new int[5];
         for (int what = 0; what < row.length; what++) {
             row[what] = x.entry(entry, what);
@@ -131,7 +134,7 @@ final class Check {
         return row;
     }
 
-    static int[] pageRow(RunningHeads x, int page) {
+    static int[] pageRow(Heads x, int page) {
         int[] row = new int[6];
         for (int what = 0; what < row.length; what++) {
             row[what] = x.page(page, what);
@@ -140,22 +143,24 @@ final class Check {
     }
 
     /** What is told of all pages, and of where each entry stands. */
-    static String pages(RunningHeads x) {
+    static String pages(Heads x) {
         StringBuilder pages = new StringBuilder();
         for (int what = 4; what <= 12; what++) {
             pages.append(x.count(what)).append(' ');
         }
-        for (int page = 0; page < x.count(4); page++) {
+        int many = x.count(4);
+        for (int page = 0; page < many; page++) {
             pages.append(head(x, page)).append(Arrays.toString(pageRow(x, page)));
         }
-        for (int entry = 0; entry < x.count(3); entry++) {
+        int entries = x.count(3);
+        for (int entry = 0; entry < entries; entry++) {
             pages.append(Arrays.toString(entryRow(x, entry)));
         }
         return pages.toString();
     }
 
     /** All that can be asked for, the slots aside: an error and a question must not change it. */
-    static String all(RunningHeads x) {
+    static String all(Heads x) {
         return state(x) + ' ' + pages(x) + ' ' + x.count(13) + ' ' + x.count(14) + ' ' + x.fault();
     }
 

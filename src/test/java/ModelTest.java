@@ -1,14 +1,18 @@
+import java.util.ArrayList;
+import java.util.List;
 import java.util.Random;
 
 /** Long runs of calls, the same each time, of which the program and the model give the same answers. */
 public final class ModelTest {
-    private static final int RUNS = 100, CALLS = 512, FULL_RUNS = 60;
+    private static final int RUNS = 600, FULL_RUNS = 60;
+    // A turn of a run makes fewer calls than these.
+    private static final int MOST_OF_A_TURN = 24;
     private static final int[] WHOLE = {0, -1, 1, 2, 3, 4, 5, 6, 7, 12, 29, 30, 31, 40, 41, 200, 201,
         Integer.MAX_VALUE, Integer.MIN_VALUE};
 
     private final Random random;
     private final int style;
-    private RunningHeads x = new RunningHeads();
+    private Heads x = new Heads();
     private Model m = new Model();
     private int unsettled = 0;
 
@@ -21,8 +25,8 @@ public final class ModelTest {
         int unsettled = 0;
         for (int run = 0; run < RUNS; run++) {
             ModelTest test = new ModelTest(run);
-            for (int call = 0; call < CALLS; call++) {
-                test.call("run " + run + " call " + call + " ");
+            while (test.x.left() >= MOST_OF_A_TURN) {
+                test.turn("run " + run + ", " + test.x.left() + " calls left, ");
             }
             unsettled += test.unsettled;
         }
@@ -33,39 +37,59 @@ public final class ModelTest {
         Check.end();
     }
 
-    /** Up to 30 entries, in the end of the most lines, and each answer about them, with some settings. */
+    /** 30 entries, some of them of the most lines, and each answer about them, with some settings. */
     private void compareFull(String name) {
+        List<String> texts = fullTexts();
+        for (int turn = 0; turn < 6; turn++) {
+            int[] settings = {turn == 0 ? 6 : 6 + upTo(35), turn == 0 ? 4 : 4 + upTo(12), 1 + upTo(3)};
+            for (int what = -1; what <= 15; what++) {
+                make(name, texts, settings);
+                compare(name + turn + " ", what);
+            }
+        }
+    }
+
+    private List<String> fullTexts() {
         int letters = 1 + upTo(7);
+        List<String> texts = new ArrayList<>();
+        String text = "";
         for (int i = 0; i < 30; i++) {
             StringBuilder word = new StringBuilder("" + (char) ('a' + (i < 15 ? i : 30 - i)));
             for (int letter = 1; letter < letters; letter++) {
                 word.append((char) ('a' + (i < 15 ? letter : 20)));
             }
-            pad(name, word.substring(0, letters) + ":" + (style == 0 ? 40 : 1 + upTo(style == 1 ? 40 : 9)));
-            Check.due(name + "read", x.read(), m.read());
+            String entry = word.substring(0, letters) + ":" + (style == 0 ? 40 : 1 + upTo(style == 1 ? 40 : 9));
+            if (text.length() + 1 + entry.length() > 60) {
+                texts.add(text);
+                text = "";
+            }
+            text = text.isEmpty() ? entry : text + "," + entry;
         }
-        for (int turn = 0; turn < 6; turn++) {
-            int lines = turn == 0 ? 6 : 6 + upTo(35);
-            int width = turn == 0 ? 4 : 4 + upTo(12);
-            int keep = 1 + upTo(3);
-            Check.due(name + "set", x.set(0, lines), m.set(0, lines));
-            Check.due(name + "set", x.set(1, width), m.set(1, width));
-            Check.due(name + "set", x.set(2, keep), m.set(2, keep));
-            compareAll(name + turn + " ");
+        texts.add(text);
+        return texts;
+    }
+
+    private void make(String name, List<String> texts, int[] settings) {
+        x = new Heads();
+        m = new Model();
+        for (int setting = 0; setting < settings.length; setting++) {
+            Check.due(name + "set", x.set(setting, settings[setting]), m.set(setting, settings[setting]));
+        }
+        for (String text : texts) {
+            pad(name, text);
+            Check.due(name + "read", x.read(), m.read());
         }
     }
 
-    private void compareAll(String name) {
-        for (int what = -1; what <= 15; what++) {
-            Check.due(name + "count " + what, x.count(what), m.count(what));
-            for (int entry = -1; entry <= m.count(3); entry++) {
-                Check.due(name + "entry " + entry + " " + what, x.entry(entry, what), m.entry(entry, what));
-            }
-            for (int page = -1; page <= m.count(4); page += 1 + page / 20) {
-                Check.due(name + "page " + page + " " + what, x.page(page, what), m.page(page, what));
-            }
+    private void compare(String name, int what) {
+        Check.due(name + "count " + what, x.count(what), m.count(what));
+        for (int entry = -1; entry <= m.count(3); entry++) {
+            Check.due(name + "entry " + entry + " " + what, x.entry(entry, what), m.entry(entry, what));
         }
-        for (int fold = -1; fold <= m.count(5); fold++) {
+        for (int page = -1; page <= m.count(4); page += 1 + page / 20) {
+            Check.due(name + "page " + page + " " + what, x.page(page, what), m.page(page, what));
+        }
+        for (int fold = -1 + what % 2; fold <= m.count(5); fold += 2) {
             Check.due(name + "fold " + fold + " left", x.fold(fold, true), m.fold(fold, true));
             Check.due(name + "fold " + fold + " right", x.fold(fold, false), m.fold(fold, false));
         }
@@ -130,7 +154,7 @@ public final class ModelTest {
         Check.due(name + "fault of " + text, x.fault(), m.fault());
     }
 
-    private void call(String name) {
+    private void turn(String name) {
         int kind = upTo(22);
         if (kind < 9) {
             change(name, kind);

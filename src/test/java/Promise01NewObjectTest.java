@@ -8,7 +8,7 @@ public final class Promise01NewObjectTest {
     }
 
     private static void numbers() {
-        RunningHeads x = new RunningHeads();
+        Heads x = new Heads();
         int[] want = {12, 12, 2, 0, 0, 0, 0, 0, 1, 1, 0, 0, 0, 0, 0};
         for (int what = 0; what < want.length; what++) {
             Check.due("count(" + what + ") of a new object", x.count(what), want[what]);
@@ -16,7 +16,7 @@ public final class Promise01NewObjectTest {
     }
 
     private static void nothingThere() {
-        RunningHeads x = new RunningHeads();
+        Heads x = new Heads();
         Check.due("entry(0, 0)", x.entry(0, 0), RunningHeads.NO_SUCH);
         Check.due("page(0, 0)", x.page(0, 0), RunningHeads.NO_SUCH);
         Check.due("fold(0, true)", x.fold(0, true), RunningHeads.NO_SUCH);
@@ -32,10 +32,10 @@ public final class Promise01NewObjectTest {
     }
 
     private static void objectsShareNothing() {
-        RunningHeads x = Check.lexicon(20, 20, 3, "a:5,b:6");
+        Heads x = Check.lexicon(20, 20, 3, "a:5,b:6");
         x.save(0);
         Check.put(x, "abc");
-        RunningHeads y = new RunningHeads();
+        Heads y = new Heads();
         Check.text("the state of a new object", Check.state(y), "12 12 2 ");
         Check.due("count(13) of a new object", y.count(13), 0);
         Check.due("restore(0) of a new object", y.restore(0), RunningHeads.NOT_POSSIBLE);

@@ -13,7 +13,7 @@ public final class Promise02SetTest {
     }
 
     private static void ranges(int setting) {
-        RunningHeads x = new RunningHeads();
+        Heads x = new Heads();
         String name = "set(" + setting + ", ..) ";
         Check.due(name + "below", x.set(setting, LOW[setting] - 1), RunningHeads.BAD_VALUE);
         Check.due(name + "above", x.set(setting, HIGH[setting] + 1), RunningHeads.BAD_VALUE);
@@ -31,7 +31,7 @@ public final class Promise02SetTest {
     }
 
     private static void noSuchSetting() {
-        RunningHeads x = new RunningHeads();
+        Heads x = new Heads();
         Check.due("set(-1, 6)", x.set(-1, 6), RunningHeads.BAD_VALUE);
         Check.due("set(3, 6)", x.set(3, 6), RunningHeads.BAD_VALUE);
         for (int setting : Check.FAR) {
@@ -42,7 +42,7 @@ public final class Promise02SetTest {
     }
 
     private static void pagesChange() {
-        RunningHeads x = Check.lexicon("abcd:20");
+        Heads x = Check.lexicon("abcd:20");
         Check.due("pages of 11 lines", x.count(4), 2);
         x.set(RunningHeads.LINES, 6);
         Check.due("pages of 5 lines", x.count(4), 4);
@@ -53,7 +53,7 @@ public final class Promise02SetTest {
     }
 
     private static void isAChangeAlsoWithTheSameValue() {
-        RunningHeads x = new RunningHeads();
+        Heads x = new Heads();
         Check.due("set(1, 12)", x.set(1, 12), 12);
         Check.due("count(14)", x.count(14), 1);
         Check.due("undo()", x.undo(), 0);

@@ -10,7 +10,7 @@ public final class Promise03ReadTest {
     }
 
     private static void orderOfWords() {
-        RunningHeads x = new RunningHeads();
+        Heads x = new Heads();
         Check.put(x, "b:1,abc:2,ab:40,abcdefg:9,aa:10,z:39,abd:3");
         Check.due("read()", x.read(), 7);
         Check.text("the entries", Check.entries(x), "aa:10,ab:40,abc:2,abcdefg:9,abd:3,b:1,z:39");
@@ -22,7 +22,7 @@ public final class Promise03ReadTest {
     }
 
     private static void wordsThatStand() {
-        RunningHeads x = Check.lexicon("b:1,d:4,b:3");
+        Heads x = Check.lexicon("b:1,d:4,b:3");
         Check.text("the lines told last", Check.entries(x), "b:3,d:4");
         Check.pad(x, "d:7,a:1,d:5,a:2,d:6");
         Check.due("read()", x.read(), 3);
@@ -30,8 +30,8 @@ public final class Promise03ReadTest {
     }
 
     private static void faults() {
-        RunningHeads x = Check.lexicon("b:1");
         for (String text : new String[] {"a", "a:", ":1", "a:0", "a:41", "a:1,", "a:1,b", "A:1", "abcdefgh:1", ",a:1"}) {
+            Heads x = Check.lexicon("b:1");
             Check.pad(x, text);
             String before = Check.all(x);
             Check.due("read() of " + text, x.read(), RunningHeads.BAD_TEXT);
@@ -41,14 +41,15 @@ public final class Promise03ReadTest {
     }
 
     private static void tooMany() {
-        RunningHeads x = Check.lexicon("a:1,b:1,c:1,d:1,e:1,f:1,g:1,h:1,i:1,j:1,k:1,l:1,m:1,n:1,o:1",
-            "p:1,q:1,r:1,s:1,t:1,u:1,v:1,w:1,x:1,y:1,z:1,ba:1,bb:1");
-        Check.due("entries", x.count(3), 28);
+        Heads x = twentyEight();
         Check.pad(x, "aa:2,a:9,ab:3,ac:4");
         String before = Check.all(x);
+        x = twentyEight();
+        Check.pad(x, "aa:2,a:9,ab:3,ac:4");
         Check.due("read() of 31 entries", x.read(), RunningHeads.TOO_MANY);
         Check.text("all behind the error", Check.all(x), before);
         Check.due("the length of the pad", x.count(13), 18);
+        x = twentyEight();
         Check.pad(x, "aa:2,ab:3,ac:4,a:9");
         Check.due("read() of 31 entries, the third one too many", x.read(), RunningHeads.TOO_MANY);
         Check.text("the first entry", Check.word(x, 0) + x.entry(0, 0), "a1");
@@ -62,8 +63,15 @@ public final class Promise03ReadTest {
         Check.due("lines of the last", x.entry(29, 0), 2);
     }
 
+    private static Heads twentyEight() {
+        Heads x = Check.lexicon("a:1,b:1,c:1,d:1,e:1,f:1,g:1,h:1,i:1,j:1,k:1,l:1,m:1,n:1,o:1",
+            "p:1,q:1,r:1,s:1,t:1,u:1,v:1,w:1,x:1,y:1,z:1,ba:1,bb:1");
+        Check.due("entries", x.count(3), 28);
+        return x;
+    }
+
     private static void isAChange() {
-        RunningHeads x = Check.lexicon("a:1");
+        Heads x = Check.lexicon("a:1");
         Check.pad(x, "a:1");
         Check.due("read() of the same", x.read(), 1);
         Check.due("count(14)", x.count(14), 2);

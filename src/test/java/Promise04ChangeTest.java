@@ -1,7 +1,7 @@
 /** change: the lines of an entry. */
 public final class Promise04ChangeTest {
     public static void main(String[] args) {
-        RunningHeads x = Check.lexicon("a:5,b:6,c:40");
+        Heads x = Check.lexicon("a:5,b:6,c:40");
         Check.due("pages", x.count(4), 5);
         Check.due("change(2, 1)", x.change(2, 1), 40);
         Check.due("change(2, 2)", x.change(2, 2), 1);
@@ -16,7 +16,7 @@ public final class Promise04ChangeTest {
         Check.end();
     }
 
-    private static void errors(RunningHeads x) {
+    private static void errors(Heads x) {
         String before = Check.all(x);
         Check.due("change(-1, 1)", x.change(-1, 1), RunningHeads.NO_SUCH);
         Check.due("change(3, 1)", x.change(3, 1), RunningHeads.NO_SUCH);

@@ -1,7 +1,7 @@
 /** drop: an entry goes, and those behind it get numbers that are 1 less. */
 public final class Promise05DropTest {
     public static void main(String[] args) {
-        RunningHeads x = Check.lexicon("a:5,bb:6,c:40,d:1");
+        Heads x = Check.lexicon("a:5,bb:6,c:40,d:1");
         Check.due("drop(1)", x.drop(1), 6);
         Check.text("the entries", Check.entries(x), "a:5,c:40,d:1");
         Check.due("drop(2)", x.drop(2), 1);
@@ -26,7 +26,7 @@ public final class Promise05DropTest {
     }
 
     private static void full() {
-        RunningHeads x = Check.lexicon("a:1,b:2,c:3,d:4,e:5,f:6,g:7,h:8,i:9,j:1,k:1,l:1,m:1,n:1,o:1",
+        Heads x = Check.lexicon("a:1,b:2,c:3,d:4,e:5,f:6,g:7,h:8,i:9,j:1,k:1,l:1,m:1,n:1,o:1",
             "p:1,q:1,r:1,s:1,t:1,u:1,v:1,w:1,x:1,y:1,z:1,ba:1,bb:1,bc:1", "bd:1");
         Check.due("entries", x.count(3), 30);
         Check.due("drop(0) of 30", x.drop(0), 1);

@@ -1,7 +1,7 @@
 /** join: an entry gets the lines of the next one, which is dropped. */
 public final class Promise06JoinTest {
     public static void main(String[] args) {
-        RunningHeads x = Check.lexicon("a:5,b:6,c:29,d:1,e:12");
+        Heads x = Check.lexicon("a:5,b:6,c:29,d:1,e:12");
         Check.due("join(1)", x.join(1), 35);
         Check.text("the entries", Check.entries(x), "a:5,b:35,d:1,e:12");
         Check.due("join(0) to 40", x.join(0), 40);

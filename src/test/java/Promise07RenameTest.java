@@ -7,7 +7,7 @@ public final class Promise07RenameTest {
     }
 
     private static void places() {
-        RunningHeads x = Check.lexicon("b:1,d:2,f:3,h:4");
+        Heads x = Check.lexicon("b:1,d:2,f:3,h:4");
         rename(x, 0, "g", 2, "d:2,f:3,g:1,h:4");
         rename(x, 2, "a", 0, "a:1,d:2,f:3,h:4");
         rename(x, 0, "zzzzzzz", 3, "d:2,f:3,h:4,zzzzzzz:1");
@@ -23,7 +23,7 @@ public final class Promise07RenameTest {
     }
 
     private static void pagesChange() {
-        RunningHeads x = Check.lexicon("b:9,d:3");
+        Heads x = Check.lexicon("b:9,d:3");
         rename(x, 1, "a", 0, "a:3,b:9");
         Check.text("the head of page 0", Check.head(x, 0), "a-b");
         Check.row("b is parted now", Check.entryRow(x, 1), 9, 0, 3, 1, 2);
@@ -34,7 +34,7 @@ public final class Promise07RenameTest {
         Check.due("lines of the head", x.page(0, 5), 1);
     }
 
-    private static void rename(RunningHeads x, int entry, String word, int want, String entries) {
+    private static void rename(Heads x, int entry, String word, int want, String entries) {
         Check.pad(x, word);
         Check.due("rename(" + entry + ") to " + word, x.rename(entry), want);
         Check.due("the length of the pad", x.count(13), 0);
@@ -42,25 +42,25 @@ public final class Promise07RenameTest {
     }
 
     private static void errors() {
-        RunningHeads x = Check.lexicon("b:1,d:2");
-        bad(x, "", 0, RunningHeads.BAD_TEXT);
-        bad(x, "abcdefgh", 0, RunningHeads.BAD_TEXT);
-        bad(x, "B", 0, RunningHeads.BAD_TEXT);
-        bad(x, "a:1", 0, RunningHeads.BAD_TEXT);
-        bad(x, "a1", 0, RunningHeads.BAD_TEXT);
-        bad(x, "a`", 0, RunningHeads.BAD_TEXT);
-        bad(x, "a{", 0, RunningHeads.BAD_TEXT);
-        bad(x, "d", 0, RunningHeads.NOT_POSSIBLE);
-        bad(x, "b", 1, RunningHeads.NOT_POSSIBLE);
-        bad(x, "c", 2, RunningHeads.NO_SUCH);
-        bad(x, "", 2, RunningHeads.NO_SUCH);
-        bad(x, "d", -1, RunningHeads.NO_SUCH);
+        bad("", 0, RunningHeads.BAD_TEXT);
+        bad("abcdefgh", 0, RunningHeads.BAD_TEXT);
+        bad("B", 0, RunningHeads.BAD_TEXT);
+        bad("a:1", 0, RunningHeads.BAD_TEXT);
+        bad("a1", 0, RunningHeads.BAD_TEXT);
+        bad("a`", 0, RunningHeads.BAD_TEXT);
+        bad("a{", 0, RunningHeads.BAD_TEXT);
+        bad("d", 0, RunningHeads.NOT_POSSIBLE);
+        bad("b", 1, RunningHeads.NOT_POSSIBLE);
+        bad("c", 2, RunningHeads.NO_SUCH);
+        bad("", 2, RunningHeads.NO_SUCH);
+        bad("d", -1, RunningHeads.NO_SUCH);
         for (int far : Check.FAR) {
-            bad(x, "c", far, RunningHeads.NO_SUCH);
+            bad("c", far, RunningHeads.NO_SUCH);
         }
     }
 
-    private static void bad(RunningHeads x, String word, int entry, int want) {
+    private static void bad(String word, int entry, int want) {
+        Heads x = Check.lexicon("b:1,d:2");
         Check.pad(x, word);
         String before = Check.all(x);
         Check.due("rename(" + entry + ") to '" + word + "'", x.rename(entry), want);

@@ -15,14 +15,14 @@ public final class Promise08EntryTest {
     // What 0 to 4: lines, page and line of the begin, page of the end, pages.
 
     private static void wholeOnThePage() {
-        RunningHeads x = Check.lexicon("a:5,b:6,c:1");
+        Heads x = Check.lexicon("a:5,b:6,c:1");
         Check.row("a", Check.entryRow(x, 0), 5, 0, 0, 0, 1);
         Check.row("b, which just fits", Check.entryRow(x, 1), 6, 0, 5, 0, 1);
         Check.row("c", Check.entryRow(x, 2), 1, 1, 0, 1, 1);
     }
 
     private static void parted() {
-        RunningHeads x = Check.lexicon("a:5,b:8,c:1");
+        Heads x = Check.lexicon("a:5,b:8,c:1");
         Check.row("b, of which 6 lines fit", Check.entryRow(x, 1), 8, 0, 5, 1, 2);
         Check.row("c", Check.entryRow(x, 2), 1, 1, 2, 1, 1);
         x = Check.lexicon("a:9,b:4,c:1");
@@ -31,7 +31,7 @@ public final class Promise08EntryTest {
     }
 
     private static void keptTogether() {
-        RunningHeads x = Check.lexicon("a:5,b:7,c:1");
+        Heads x = Check.lexicon("a:5,b:7,c:1");
         Check.row("b, of which 2 lines are kept", Check.entryRow(x, 1), 7, 0, 5, 1, 2);
         Check.row("c", Check.entryRow(x, 2), 1, 1, 2, 1, 1);
         x = Check.lexicon(12, 12, 3, "a:5,b:8,c:1");
@@ -46,7 +46,7 @@ public final class Promise08EntryTest {
     }
 
     private static void nextPage() {
-        RunningHeads x = Check.lexicon("a:10,b:3,c:1");
+        Heads x = Check.lexicon("a:10,b:3,c:1");
         Check.row("b, as 1 line is less than are kept", Check.entryRow(x, 1), 3, 1, 0, 1, 1);
         Check.row("c", Check.entryRow(x, 2), 1, 1, 3, 1, 1);
         x = Check.lexicon("a:9,b:3,c:1");
@@ -59,7 +59,7 @@ public final class Promise08EntryTest {
 
     private static void partedOnAPageThatIsTooSmall() {
         // The head takes two lines, so 4 are left; 5 lines can't be parted into 3 and 3.
-        RunningHeads x = Check.lexicon(6, 4, 3, "abcde:5");
+        Heads x = Check.lexicon(6, 4, 3, "abcde:5");
         Check.row("abcde, 4 and 1", Check.entryRow(x, 0), 5, 0, 0, 1, 2);
         Check.due("lines of page 0", x.page(0, 3), 4);
         Check.due("lines of page 1", x.page(1, 3), 1);
@@ -69,18 +69,18 @@ public final class Promise08EntryTest {
     }
 
     private static void manyPages() {
-        RunningHeads x = Check.lexicon(6, 12, 1, "a:3,b:4,c:12,d:2");
+        Heads x = Check.lexicon(6, 12, 1, "a:3,b:4,c:12,d:2");
         Check.row("a", Check.entryRow(x, 0), 3, 0, 0, 0, 1);
         Check.row("b", Check.entryRow(x, 1), 4, 0, 3, 1, 2);
         Check.row("c", Check.entryRow(x, 2), 12, 1, 2, 3, 3);
         Check.row("d", Check.entryRow(x, 3), 2, 3, 4, 4, 2);
-        RunningHeads y = Check.full();
+        Heads y = Check.full();
         Check.due("pages", y.count(4), 300);
         Check.row("the last entry", Check.entryRow(y, 29), 40, 290, 0, 299, 10);
     }
 
     private static void letters() {
-        RunningHeads x = Check.lexicon("z:1,abcdefg:2");
+        Heads x = Check.lexicon("z:1,abcdefg:2");
         Check.due("entry(0, 5)", x.entry(0, 5), 7);
         Check.due("entry(1, 5)", x.entry(1, 5), 1);
         for (int letter = 0; letter < 7; letter++) {
@@ -93,7 +93,7 @@ public final class Promise08EntryTest {
     }
 
     private static void errors() {
-        RunningHeads x = Check.lexicon("a:1,b:2");
+        Heads x = Check.lexicon("a:1,b:2");
         Check.due("entry(2, 0)", x.entry(2, 0), RunningHeads.NO_SUCH);
         Check.due("entry(-1, 0)", x.entry(-1, 0), RunningHeads.NO_SUCH);
         Check.due("entry(2, -1)", x.entry(2, -1), RunningHeads.NO_SUCH);

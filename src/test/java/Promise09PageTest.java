@@ -12,7 +12,7 @@ public final class Promise09PageTest {
     // What 0 to 5: first and last entry, how many begin, lines, blank lines, lines of the head.
 
     private static void numbers() {
-        RunningHeads x = Check.lexicon(6, 12, 1, "a:3,b:4,c:12,d:2");
+        Heads x = Check.lexicon(6, 12, 1, "a:3,b:4,c:12,d:2");
         Check.row("page 0", Check.pageRow(x, 0), 0, 1, 2, 5, 0, 1);
         Check.row("page 1", Check.pageRow(x, 1), 1, 2, 1, 5, 0, 1);
         Check.row("page 2", Check.pageRow(x, 2), 2, 2, 0, 5, 0, 1);
@@ -25,7 +25,7 @@ public final class Promise09PageTest {
 
     private static void headOfTwoLines() {
         // abcde-bc has 8 characters.
-        RunningHeads x = Check.lexicon(12, 8, 2, "abcde:5,bc:3");
+        Heads x = Check.lexicon(12, 8, 2, "abcde:5,bc:3");
         Check.row("a head that just fits", Check.pageRow(x, 0), 0, 1, 2, 8, 3, 1);
         Check.due("how wide it is", x.page(0, 6), 8);
         x.set(RunningHeads.WIDTH, 7);
@@ -43,7 +43,7 @@ public final class Promise09PageTest {
     private static void notSettled() {
         // With heads of one line page 1 has lines of ax and bx (5 characters); with two lines there all
         // of bx goes to page 2, and the head of page 1 is ax. The tenth pass is one of the latter.
-        RunningHeads x = Check.lexicon(7, 4, 3, "ax:8,bx:9");
+        Heads x = Check.lexicon(7, 4, 3, "ax:8,bx:9");
         Check.due("passes", x.count(8), 10);
         Check.due("settled", x.count(9), 0);
         Check.due("pages", x.count(4), 4);
@@ -55,7 +55,7 @@ public final class Promise09PageTest {
     }
 
     private static void characters() {
-        RunningHeads x = Check.lexicon("abcdefg:5,b:5,zyxwvut:3");
+        Heads x = Check.lexicon("abcdefg:5,b:5,zyxwvut:3");
         Check.text("the head of page 0", Check.head(x, 0), "abcdefg-b");
         Check.due("the first character", x.page(0, 7), 'a');
         Check.due("the seventh", x.page(0, 13), 'g');
@@ -72,7 +72,7 @@ public final class Promise09PageTest {
     }
 
     private static void errors() {
-        RunningHeads x = Check.lexicon("a:11,b:2");
+        Heads x = Check.lexicon("a:11,b:2");
         Check.due("page(2, 0)", x.page(2, 0), RunningHeads.NO_SUCH);
         Check.due("page(-1, 0)", x.page(-1, 0), RunningHeads.NO_SUCH);
         Check.due("page(2, -1)", x.page(2, -1), RunningHeads.NO_SUCH);

@@ -8,7 +8,7 @@ public final class Promise10FoldTest {
 
     private static void names() {
         // Page 0 has a and b, 1 b and c, 2 c, 3 c and d, 4 d.
-        RunningHeads x = Check.lexicon(6, 12, 1, "a:3,b:4,c:12,d:2");
+        Heads x = Check.lexicon(6, 12, 1, "a:3,b:4,c:12,d:2");
         Check.due("the last one that begins on page 0", x.fold(0, true), 1);
         Check.due("the first one that begins on page 1", x.fold(0, false), 2);
         Check.due("none begins on page 2", x.fold(1, true), 2);
@@ -28,7 +28,7 @@ public final class Promise10FoldTest {
     }
 
     private static void errors() {
-        RunningHeads x = Check.lexicon("a:1");
+        Heads x = Check.lexicon("a:1");
         Check.due("fold(0, true)", x.fold(0, true), 0);
         Check.due("fold(0, false)", x.fold(0, false), RunningHeads.NONE);
         for (boolean isLeft : new boolean[] {true, false}) {

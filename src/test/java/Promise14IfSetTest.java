@@ -10,7 +10,7 @@ public final class Promise14IfSetTest {
     }
 
     private static void pages() {
-        RunningHeads x = Check.lexicon("ab:20");
+        Heads x = Check.lexicon("ab:20");
         String before = Check.all(x);
         Check.due("ifSet(LINES, 6)", x.ifSet(RunningHeads.LINES, 6), 4);
         Check.due("ifSet(LINES, 20)", x.ifSet(RunningHeads.LINES, 20), 2);
@@ -24,14 +24,14 @@ public final class Promise14IfSetTest {
         x = Check.lexicon(6, 30, 1, "a:4,b:6");
         Check.due("ifSet(KEEP, 1)", x.ifSet(RunningHeads.KEEP, 1), 2);
         Check.due("ifSet(KEEP, 2)", x.ifSet(RunningHeads.KEEP, 2), 3);
-        Check.due("ifSet of none", new RunningHeads().ifSet(RunningHeads.KEEP, 2), 0);
+        Check.due("ifSet of none", new Heads().ifSet(RunningHeads.KEEP, 2), 0);
         Check.text("another one behind it", Check.all(Check.lexicon("ab:20")), before);
     }
 
     private static void sameAsSet() {
         for (int setting = 0; setting < 3; setting++) {
             for (int value = LOW[setting]; value <= HIGH[setting]; value++) {
-                RunningHeads x = Check.lexicon("abc:7,bbbbb:3,cd:12,d:1,effffff:9,z:5");
+                Heads x = Check.lexicon("abc:7,bbbbb:3,cd:12,d:1,effffff:9,z:5");
                 String before = Check.all(x);
                 int got = x.ifSet(setting, value);
                 Check.text("all behind ifSet", Check.all(x), before);
@@ -42,7 +42,7 @@ public final class Promise14IfSetTest {
     }
 
     private static void errors() {
-        RunningHeads x = Check.lexicon("a:1");
+        Heads x = Check.lexicon("a:1");
         for (int setting = 0; setting < 3; setting++) {
             Check.due("ifSet below", x.ifSet(setting, LOW[setting] - 1), RunningHeads.BAD_VALUE);
             Check.due("ifSet above", x.ifSet(setting, HIGH[setting] + 1), RunningHeads.BAD_VALUE);

@@ -2,7 +2,7 @@
 public final class Promise15LeastLinesTest {
     public static void main(String[] args) {
         // Rooms are LINES less 1; 20 lines go to 20, 10 + 10, 7 + 7 + 6, and 5 + 5 + 5 + 5.
-        RunningHeads x = Check.lexicon("ab:20");
+        Heads x = Check.lexicon("ab:20");
         String before = Check.all(x);
         Check.due("leastLines(1)", x.leastLines(1), 21);
         Check.due("leastLines(2)", x.leastLines(2), 11);
@@ -12,12 +12,12 @@ public final class Promise15LeastLinesTest {
         Check.text("all behind them", Check.all(x), before);
         none();
         errors(x);
-        Check.due("leastLines(1) without entries", new RunningHeads().leastLines(1), 6);
+        Check.due("leastLines(1) without entries", new Heads().leastLines(1), 6);
         Check.end();
     }
 
     private static void none() {
-        RunningHeads x = Check.lexicon("a:38,b:1");
+        Heads x = Check.lexicon("a:38,b:1");
         Check.due("leastLines(1) of 39 lines", x.leastLines(1), 40);
         x.change(1, 2);
         Check.due("leastLines(1) of 40 lines", x.leastLines(1), RunningHeads.NONE);
@@ -28,7 +28,7 @@ public final class Promise15LeastLinesTest {
         Check.due("leastLines(1) with one line less", x.leastLines(1), 40);
     }
 
-    private static void errors(RunningHeads x) {
+    private static void errors(Heads x) {
         Check.due("leastLines(0)", x.leastLines(0), RunningHeads.BAD_VALUE);
         Check.due("leastLines(-1)", x.leastLines(-1), RunningHeads.BAD_VALUE);
         Check.due("leastLines(201)", x.leastLines(201), RunningHeads.BAD_VALUE);

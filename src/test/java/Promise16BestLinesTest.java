@@ -9,7 +9,7 @@ public final class Promise16BestLinesTest {
         best("a:40,b:1", 7, 1);
         best("a:39", 14, 0);
         highest();
-        RunningHeads none = new RunningHeads();
+        Heads none = new Heads();
         Check.due("bestLines(0) without entries", none.bestLines(0), 6);
         Check.due("bestLines(1) without entries", none.bestLines(1), 0);
         errors();
@@ -17,7 +17,7 @@ public final class Promise16BestLinesTest {
     }
 
     private static void best(String text, int lines, int blank) {
-        RunningHeads x = Check.lexicon(text);
+        Heads x = Check.lexicon(text);
         String before = Check.all(x);
         Check.due("bestLines(0) of " + text, x.bestLines(0), lines);
         Check.due("bestLines(1) of " + text, x.bestLines(1), blank);
@@ -29,14 +29,14 @@ public final class Promise16BestLinesTest {
         best("aa:37", 38, 0);
         // 39 lines fill three times 13, but there b finds one line only and goes to the next page.
         best("a:12,b:2,c:25", 40, 0);
-        RunningHeads x = Check.lexicon(12, 4, 2, "abcde:37");
+        Heads x = Check.lexicon(12, 4, 2, "abcde:37");
         Check.due("bestLines(0) with a head of two lines", x.bestLines(0), 39);
         x.change(0, 38);
         Check.due("bestLines(0), two pages of 19", x.bestLines(0), 21);
     }
 
     private static void errors() {
-        RunningHeads x = Check.lexicon("a:7");
+        Heads x = Check.lexicon("a:7");
         Check.due("bestLines(-1)", x.bestLines(-1), RunningHeads.BAD_VALUE);
         Check.due("bestLines(2)", x.bestLines(2), RunningHeads.BAD_VALUE);
         for (int far : Check.FAR) {

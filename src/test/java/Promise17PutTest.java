@@ -8,7 +8,7 @@ public final class Promise17PutTest {
     }
 
     private static void order() {
-        RunningHeads x = new RunningHeads();
+        Heads x = new Heads();
         // b, a, c: the last character has the lowest bits.
         Check.due("put('ba')", x.put('b' << 8 | 'a'), 2);
         Check.due("put('c')", x.put('c'), 3);
@@ -23,7 +23,7 @@ public final class Promise17PutTest {
     }
 
     private static void codes() {
-        RunningHeads x = new RunningHeads();
+        Heads x = new Heads();
         Check.due("put(33)", x.put(33), 1);
         Check.due("put(126)", x.put(126), 2);
         Check.due("put of eight times 126", x.put(0x7e7e7e7e7e7e7e7eL), 10);
@@ -38,7 +38,7 @@ public final class Promise17PutTest {
     }
 
     private static void length() {
-        RunningHeads x = new RunningHeads();
+        Heads x = new Heads();
         for (int eight = 1; eight <= 7; eight++) {
             Check.due("put of eight", x.put(Check.packed("aaaaaaaa")), 8 * eight);
         }

@@ -1,7 +1,7 @@
 /** wipe: an empty pad, and nothing else. */
 public final class Promise18WipeTest {
     public static void main(String[] args) {
-        RunningHeads x = Check.lexicon("a:5,b:8");
+        Heads x = Check.lexicon("a:5,b:8");
         String before = Check.all(x);
         Check.due("wipe() of an empty pad", x.wipe(), 0);
         Check.put(x, "c:1,d:2,e");

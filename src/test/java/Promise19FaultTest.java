@@ -12,7 +12,7 @@ public final class Promise19FaultTest {
     }
 
     private static void fault(String text, int want) {
-        RunningHeads x = new RunningHeads();
+        Heads x = new Heads();
         Check.put(x, text);
         Check.due("fault() of '" + text + "'", x.fault(), want);
         Check.due("the length of the pad behind it", x.count(13), text.length());

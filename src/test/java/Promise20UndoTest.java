@@ -9,13 +9,13 @@ public final class Promise20UndoTest {
     }
 
     private static void eachChange() {
-        RunningHeads x = Check.lexicon("a:5,b:6,c:40");
+        Heads x = Check.lexicon("a:5,b:6,c:40");
         x.save(0);
         String[] states = new String[6];
         String[] pages = new String[6];
         for (int change = 0; change < 6; change++) {
             states[change] = Check.state(x);
-            pages[change] = Check.pages(x);
+            pages[change] = pageCounts(x);
             makeChange(x, change);
             Check.due("count(14)", x.count(14), Math.min(6, change + 2));
         }
@@ -23,13 +23,21 @@ public final class Promise20UndoTest {
             Check.due("undo()", x.undo(), change);
             Check.due("count(14)", x.count(14), change);
             Check.text("the state before change " + change, Check.state(x), states[change]);
-            Check.text("the pages before change " + change, Check.pages(x), pages[change]);
+            Check.text("the pages before change " + change, pageCounts(x), pages[change]);
         }
         Check.due("undo() of none", x.undo(), RunningHeads.NOT_POSSIBLE);
         Check.text("the state", Check.state(x), "12 12 2 a:5,b:6,c:40");
     }
 
-    private static void makeChange(RunningHeads x, int change) {
+    private static String pageCounts(Heads x) {
+        StringBuilder counts = new StringBuilder();
+        for (int what = 4; what <= 12; what++) {
+            counts.append(x.count(what)).append(' ');
+        }
+        return counts.toString();
+    }
+
+    private static void makeChange(Heads x, int change) {
         switch (change) {
             case 0 -> Check.due("set", x.set(RunningHeads.LINES, 9), 12);
             case 1 -> Check.due("change", x.change(2, 12), 40);
@@ -44,7 +52,7 @@ public final class Promise20UndoTest {
     }
 
     private static void atMostSix() {
-        RunningHeads x = new RunningHeads();
+        Heads x = new Heads();
         for (int width = 13; width <= 20; width++) {
             Check.due("set", x.set(RunningHeads.WIDTH, width), width - 1);
             Check.due("count(14)", x.count(14), Math.min(6, width - 12));
@@ -61,7 +69,7 @@ public final class Promise20UndoTest {
     }
 
     private static void errorsAndQuestionsAreNoChanges() {
-        RunningHeads x = Check.lexicon("a:5,b:40");
+        Heads x = Check.lexicon("a:5,b:40");
         x.set(0, 5);
         x.read();
         x.change(0, 0);
@@ -84,7 +92,7 @@ public final class Promise20UndoTest {
     }
 
     private static void notThePadNorTheSlots() {
-        RunningHeads x = Check.lexicon("a:5");
+        Heads x = Check.lexicon("a:5");
         x.save(0);
         x.change(0, 7);
         x.save(1);

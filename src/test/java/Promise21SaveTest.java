@@ -1,7 +1,7 @@
 /** save: two slots, each of which holds what was saved last. */
 public final class Promise21SaveTest {
     public static void main(String[] args) {
-        RunningHeads x = new RunningHeads();
+        Heads x = new Heads();
         Check.due("save(0) without entries", x.save(0), 0);
         Check.pad(x, "a:5,b:6");
         x.read();
@@ -24,7 +24,7 @@ public final class Promise21SaveTest {
         Check.end();
     }
 
-    private static void errors(RunningHeads x) {
+    private static void errors(Heads x) {
         String before = Check.all(x);
         Check.due("save(-1)", x.save(-1), RunningHeads.BAD_VALUE);
         Check.due("save(2)", x.save(2), RunningHeads.BAD_VALUE);

@@ -8,7 +8,7 @@ public final class Promise22RestoreTest {
     }
 
     private static void errors() {
-        RunningHeads x = Check.lexicon("a:5");
+        Heads x = Check.lexicon("a:5");
         x.save(1);
         String before = Check.all(x);
         Check.due("restore(0)", x.restore(0), RunningHeads.NOT_POSSIBLE);
@@ -21,7 +21,7 @@ public final class Promise22RestoreTest {
     }
 
     private static void slotsKeep() {
-        RunningHeads x = Check.lexicon(8, 9, 1, "axxx:7,bxx:5,cx:9");
+        Heads x = Check.lexicon(8, 9, 1, "axxx:7,bxx:5,cx:9");
         String pages = Check.pages(x);
         Check.due("save(0)", x.save(0), 3);
         for (int turn = 0; turn < 3; turn++) {
@@ -39,7 +39,7 @@ public final class Promise22RestoreTest {
     }
 
     private static void isAChange() {
-        RunningHeads x = Check.lexicon("a:5");
+        Heads x = Check.lexicon("a:5");
         x.save(0);
         x.change(0, 6);
         Check.due("restore(0)", x.restore(0), 1);
