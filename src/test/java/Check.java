@@ -2,7 +2,16 @@ import java.util.Arrays;
 
 /** What every test here needs: calls with the answers that are due, and texts for the pad. */
 final class Check {
+    private static final int MOST_SECONDS = 300;
+
     private static int wrong = 0;
+
+    static {
+        // A call that fails to end must not keep the tests from ending.
+        Thread watch = new Thread(Check::endLate);
+        watch.setDaemon(true);
+        watch.start();
+    }
 
     private Check() {
     }
@@ -19,6 +28,20 @@ final class Check {
             wrong++;
             System.out.println("it does not hold that " + what);
         }
+    }
+
+    private static void endLate() {
+        try {
+            Thread.sleep(MOST_SECONDS * 1000L);
+        } catch (InterruptedException ended) {
+            return;
+        }
+        System.out.println("it did not come to its end in " + MOST_SECONDS + " seconds");
+        Runtime.getRuntime().halt(1);
+    }
+
+    static int wrong() {
+        return wrong;
     }
 
     static void end() {
