@@ -14,6 +14,11 @@ abstract class Edges {
     static final int LINES = 0, WIDTH = 1, KEEP = 2;
     static final int[] LEAST = {6, 4, 1}, MOST = {40, 30, 3}, FIRST = {12, 12, 2};
     static final int LOW = Integer.MIN_VALUE, HIGH = Integer.MAX_VALUE;
+    // 15 entries, to which a digit can be added, so that the pad is full.
+    static final String FIFTY_NINE = "a:1,b:1,c:1,d:1,e:1,f:1,g:1,h:1,i:1,j:1,k:1,l:1,m:1,n:1,o:1";
+    // What is not one to seven letters a to z.
+    static final String[] NO_WORDS = {"", "abcdefgh", "A", "Z", "`", "{", "@", "[", "0", "a1", "a-b", "a:1", "a,b", "~",
+        "abcdef{", "`bcdefg"};
 
     private static final Document DOCUMENT = new Document();
     private static final Map<String, List<String>> QUOTED = new HashMap<>();

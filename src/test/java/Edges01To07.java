@@ -1,9 +1,5 @@
 /** Promises 1 to 7: a new object, and the changes. */
 final class Edges01To07 extends Edges {
-    // What is not one to seven letters a to z.
-    private static final String[] NO_WORDS = {"", "abcdefgh", "A", "Z", "`", "{", "@", "[", "0", "a1", "a-b", "a:1", "a,b", "~",
-        "abcdef{", "`bcdefg"};
-
     static void all() {
         part("Promise 1: A new object");
         newObject();

@@ -1,8 +1,5 @@
 /** Promises 8 to 13: the questions about entries and pages. */
 final class Edges08To13 extends Edges {
-    // What is not one to seven letters a to z.
-    private static final String[] NO_WORDS = {"", "abcdefgh", "A", "Z", "`", "{", "@", "[", "0", "a1", "a-b", "a:1", "a,b", "~",
-        "abcdef{", "`bcdefg"};
     // Pages of 5 lines: a and b, b and c, c, c and d, d.
     private static final String FIVE_PAGES = "a:3,b:4,c:12,d:2";
 

@@ -1,7 +1,5 @@
 /** Promises 17 to 22: texts, undo and saved states. */
 final class Edges17To22 extends Edges {
-    private static final String FIFTY_NINE = "a:1,b:1,c:1,d:1,e:1,f:1,g:1,h:1,i:1,j:1,k:1,l:1,m:1,n:1,o:1";
-
     static void all() {
         part("Promise 17: put");
         put();

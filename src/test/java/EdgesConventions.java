@@ -124,7 +124,7 @@ final class EdgesConventions extends Edges {
             due("page(0, -1)", calm("").page(0, -1), BAD_VALUE);
         });
         edge(sentence, "promise 17, BAD_VALUE ahead of TOO_MANY", () -> {
-            Heads x = fullPad();
+            Heads x = padOnly(FIFTY_NINE + "1");
             due("put(0)", x.put(0), BAD_VALUE);
             due("put(32)", x.put(32), BAD_VALUE);
             due("put(LOW)", x.put(Long.MIN_VALUE), BAD_VALUE);
@@ -135,10 +135,6 @@ final class EdgesConventions extends Edges {
             due("restore(-1)", new Heads().restore(-1), BAD_VALUE);
             due("restore(0)", new Heads().restore(0), NOT_POSSIBLE);
         });
-    }
-
-    private static Heads fullPad() {
-        return padOnly("a:1,b:1,c:1,d:1,e:1,f:1,g:1,h:1,i:1,j:1,k:1,l:1,m:1,n:1,o:11");
     }
 
     /** Each error of each method; the remark says which promise it is of. */
@@ -196,8 +192,8 @@ final class EdgesConventions extends Edges {
             refused("put of the largest long", "q:1,r", x -> x.put(Long.MAX_VALUE), BAD_VALUE);
         });
         edge(sentence, "promise 17, put: TOO_MANY", () -> {
-            unchanged("put behind a full pad", EdgesConventions::fullPad, x -> x.put('1'), TOO_MANY);
-            unchanged("put of two behind 59", () -> padOnly("a:1,b:1,c:1,d:1,e:1,f:1,g:1,h:1,i:1,j:1,k:1,l:1,m:1,n:1,o:1"),
+            unchanged("put behind a full pad", () -> padOnly(FIFTY_NINE + "1"), x -> x.put('1'), TOO_MANY);
+            unchanged("put of two behind 59", () -> padOnly(FIFTY_NINE),
                 x -> x.put('1' << 8 | ','), TOO_MANY);
         });
         edge(sentence, "promise 20, undo: NOT_POSSIBLE", () -> unchanged("undo() of none", () -> {

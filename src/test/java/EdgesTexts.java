@@ -1,7 +1,5 @@
 /** Terms, Texts: how long the pad is, what can be read, and where the fault is. */
 final class EdgesTexts extends Edges {
-    private static final String FIFTY_NINE = "a:1,b:1,c:1,d:1,e:1,f:1,g:1,h:1,i:1,j:1,k:1,l:1,m:1,n:1,o:1";
-
     static void all() {
         part("Texts");
         length();
